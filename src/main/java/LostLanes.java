@@ -19,6 +19,9 @@ public final class LostLanes {
     private static final int NAMES = 20;
     private static final int LAST_HOUR = 999;
     private static final int LONGEST_LOOK = 60;
+    private static final int MOST_FEW = 20;
+    private static final int MOST_CRIERS = 99;
+    private static final long ALL_PARTS = 1000000000000L;
 
     private static final int HOUR = 0;
     private static final int CRIES = 1;
@@ -63,9 +66,9 @@ public final class LostLanes {
     private final Plates plates = new Plates();
     private final int[] orderWords = new int[ORDER_WORD_COUNT];
     private final int[] refusals = new int[7];
-    private final long[] chances = new long[NAMES + 1];
+    /** By how many cried; those of fewer than MOST_FEW are enough. */
+    private final long[] chances = new long[MOST_FEW];
     private int latestStatus;
-    private int faultPlace = NONE;
     private int stoppedAt = NONE;
     private int gravelCount;
 
@@ -204,7 +207,8 @@ public final class LostLanes {
             tape.length = 0;
             return refuse(NO_ROOM);
         }
-        Script script = readTape(true);
+        Script script = reader.read(true);
+        tape.length = 0;
         if (script == null) {
             return refuse(NO_TEXT);
         }
@@ -214,7 +218,8 @@ public final class LostLanes {
     }
 
     public int orders() {
-        Script script = readTape(false);
+        Script script = reader.read(false);
+        tape.length = 0;
         stoppedAt = NONE;
         if (script == null) {
             return refuse(NO_TEXT);
@@ -235,7 +240,7 @@ public final class LostLanes {
     }
 
     public int fault() {
-        return faultPlace;
+        return reader.faultAt;
     }
 
     public int stopped() {
@@ -442,11 +447,11 @@ public final class LostLanes {
     }
 
     public long few(int k, int n) {
-        if (k < 1 || k > 20 || n < 0 || n > 99) {
+        if (k < 1 || k > MOST_FEW || n < 0 || n > MOST_CRIERS) {
             return NONE;
         }
         Arrays.fill(chances, 0);
-        chances[0] = 1000000000000L;
+        chances[0] = ALL_PARTS;
         long cries = town.terms[CRIES];
         for (int child = 0; child < n; child++) {
             // Downwards, so that the part for one fewer is still that of the child before.
@@ -608,13 +613,6 @@ public final class LostLanes {
         }
         town.addLane(one, other, length, sight);
         return true;
-    }
-
-    private Script readTape(boolean asLaw) {
-        Script script = reader.read(asLaw);
-        faultPlace = reader.faultAt;
-        tape.length = 0;
-        return script;
     }
 
     /** Runs a clause of orders once; false if it can't be. */
@@ -986,6 +984,7 @@ public final class LostLanes {
         int number;
         int parts;
         int brackets;
+        /** Where the latest text that was read could not go on. */
         int faultAt = NONE;
 
         Reader(Tape tape) {
@@ -1087,32 +1086,23 @@ public final class LostLanes {
                 if (!opens() || !test() || !closes(')')) {
                     return false;
                 }
-            } else if (!comparison()) {
-                return false;
+            } else {
+                if (!sum()) {
+                    return false;
+                }
+                int deed = isSign('<') ? Reckoner.LESS : isSign('>') ? Reckoner.MORE : Reckoner.SAME;
+                if (deed == Reckoner.SAME && !isSign('=')) {
+                    return fail();
+                }
+                advance();
+                if (!sum()) {
+                    return false;
+                }
+                emit(deed, 0);
             }
             if (turned) {
                 emit(Reckoner.NOT, 0);
             }
-            return true;
-        }
-
-        boolean comparison() {
-            if (!sum()) {
-                return false;
-            }
-            int deed = Reckoner.SAME;
-            if (isSign('<')) {
-                deed = Reckoner.LESS;
-            } else if (isSign('>')) {
-                deed = Reckoner.MORE;
-            } else if (!isSign('=')) {
-                return fail();
-            }
-            advance();
-            if (!sum()) {
-                return false;
-            }
-            emit(deed, 0);
             return true;
         }
 
@@ -1162,30 +1152,20 @@ public final class LostLanes {
                 advance();
                 return true;
             }
-            return asLaw ? lawWord() : orderWord();
-        }
-
-        boolean lawWord() {
-            int word = choice(LAW_WORDS);
+            int word = choice(asLaw ? LAW_WORDS : ORDER_WORDS);
             if (word == NONE) {
                 return fail();
             }
-            emit(Reckoner.WORD, word);
             advance();
+            if (!asLaw && word >= AT_WORD) {
+                return numberedWord(word == AT_WORD);
+            }
+            emit(Reckoner.WORD, word);
             return true;
         }
 
-        boolean orderWord() {
-            int word = choice(ORDER_WORDS);
-            if (word == NONE) {
-                return fail();
-            }
-            advance();
-            if (word < AT_WORD) {
-                emit(Reckoner.WORD, word);
-                return true;
-            }
-            boolean isAt = word == AT_WORD;
+        /** The number behind "at" or "plate", which makes one word with it. */
+        boolean numberedWord(boolean isAt) {
             if (!isNumber(0, isAt ? MOST_CHILDREN - 1 : MOST_LANES - 1)) {
                 return fail();
             }
@@ -1465,14 +1445,18 @@ public final class LostLanes {
 
         /** Writes the track of that child for so many hours, nothing else being done. */
         void follow(Town town, int child, int hours) {
+            if (!town.hasChild(child)) {
+                return;
+            }
             paper.become(town);
-            for (int n = 0; n <= hours && n < track.length && paper.hasChild(child); n++) {
-                track[n] = paper.corners[child];
+            track[0] = paper.corners[child];
+            for (int n = 1; n <= hours && n < track.length; n++) {
                 int lane = laneTaken(paper, paper.lawInForce(), child);
                 if (lane != NONE) {
                     paper.goAlong(child, lane);
                 }
                 paper.terms[HOUR]++;
+                track[n] = paper.corners[child];
             }
         }
 
