@@ -48,7 +48,8 @@ public final class LostLanes {
     private static final int PLATE_WORDS = AT_WORD + MOST_CHILDREN;
     private static final int ORDER_WORD_COUNT = PLATE_WORDS + MOST_LANES;
 
-    private static final int BROKEN = Integer.MIN_VALUE;
+    /** No sum comes so far below 0. */
+    private static final int BROKEN = -2000000000;
     private static final int FAR_OFF = 1000000;
 
     private final Town town = new Town();
@@ -58,10 +59,10 @@ public final class LostLanes {
     private final Town[] images = new Town[2];
     private final Log log = new Log();
     private final Log logBefore = new Log();
-    private final Tape tape = new Tape();
-    private final Reader reader = new Reader(tape);
-    private final Reckoner reckoner = new Reckoner();
-    private final Wits wits = new Wits(reckoner);
+    private final Reader reader = new Reader();
+    private final Tape tape = reader.tape;
+    private final Wits wits = new Wits();
+    private final Reckoner reckoner = wits.reckoner;
     private final Ways ways = new Ways();
     private final Plates plates = new Plates();
     private final int[] orderWords = new int[ORDER_WORD_COUNT];
@@ -961,7 +962,7 @@ public final class LostLanes {
         }
     }
 
-    /** Reads the tape as a text of either language. */
+    /** Has the tape, and reads it as a text of either language. */
     private static final class Reader {
         static final int MOST_PARTS = 50;
         static final int MOST_BRACKETS = 8;
@@ -973,7 +974,7 @@ public final class LostLanes {
         static final int DIGITS = 2;
         static final int SIGN = 3;
 
-        final Tape tape;
+        final Tape tape = new Tape();
         /** Each token makes one deed at most. */
         final int[] code = new int[2 * MOST_BYTES];
         int size;
@@ -986,10 +987,6 @@ public final class LostLanes {
         int brackets;
         /** Where the latest text that was read could not go on. */
         int faultAt = NONE;
-
-        Reader(Tape tape) {
-            this.tape = tape;
-        }
 
         /** The script, or null with the fault's place in faultAt. */
         Script read(boolean readAsLaw) {
@@ -1387,16 +1384,12 @@ public final class LostLanes {
     private static final class Wits {
         static final int MOST_TURN = 99;
 
-        final Reckoner reckoner;
+        final Reckoner reckoner = new Reckoner();
         final Town paper = new Town();
         final int[] words = new int[LAW_WORD_COUNT];
         final int[] free = new int[MOST_LANES];
         /** Corners of the child that was followed, by hours from now. */
         final int[] track = new int[LONGEST_LOOK + 1];
-
-        Wits(Reckoner reckoner) {
-            this.reckoner = reckoner;
-        }
 
         int turnOf(Town town, Script law, int child) {
             look(town, child, NONE);

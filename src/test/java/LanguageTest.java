@@ -165,6 +165,16 @@ public final class LanguageTest {
         }
 
         @Override
+        public Void visitMemberSelect(MemberSelectTree tree, Void v) {
+            Element e = trees.getElement(getCurrentPath());
+            if (e instanceof VariableElement && e.getEnclosingElement() instanceof TypeElement type
+                    && type.getQualifiedName().toString().startsWith("java.")) {
+                no(tree, tree + " is not of the library (rule 4)");
+            }
+            return super.visitMemberSelect(tree, v);
+        }
+
+        @Override
         public Void visitNewClass(NewClassTree tree, Void v) {
             called(tree, trees.getElement(getCurrentPath()));
             return super.visitNewClass(tree, v);

@@ -204,6 +204,11 @@ public final class PromisesTest {
         faultOf(true, "turns 99999999999999999999", 6);
         faultOf(true, "turns 00000000000000000001", -1);
         faultOf(true, "Turns 1", 0);
+        faultOf(true, "turnsz 1", 0);
+        faultOf(true, "turnsa 1", 0);
+        faultOf(true, "turns{1", 5);
+        faultOf(true, "turns`1", 5);
+        faultOf(true, "turns 1:", 7);
         faultOf(true, "turns (1)", 6);
         faultOf(true, "turns [1", 8);
         faultOf(true, "turns [1  ", 10);
@@ -586,6 +591,11 @@ public final class PromisesTest {
         due(27, "again(1), it can't", x.again(1), 1);
         due(27, "again(2)", x.again(2), -1);
         due(27, "again(-1)", x.again(-1), -1);
+        x.force(Due.law(x, "bars if not lane = 0; bars if hour > 0 and hour < 59"));
+        due(27, "again(0) in 60", x.again(0), 60);
+        x.force(Due.law(x, "bars if not lane = 0; bars if hour > 0 and hour < 60"));
+        due(27, "again(0) in 61", x.again(0), -1);
+        x.force(-1);
         x.force(Due.law(x, "bars if not lane = 0 and last = lane or lane = 0 and hour > 1000; bars if hour < 999"));
         x.terms(0, 997);
         due(22, "where(0, 2)", x.where(0, 2), 0);
@@ -928,6 +938,7 @@ public final class PromisesTest {
         due(40, "drawn ahead of any", x.drawn(0, 1), -1);
         due(39, "status() of drawn", x.status(), 0);
         x.decades(1000000, 60);
+        due(39, "status() of decades(1000000, 60)", x.status(), 0);
         due(39, "on paper", x.of(0, 1), 0);
         due(39, "the hour on paper", x.count(13), 0);
         due(39, "names on paper", x.count(2), 0);
