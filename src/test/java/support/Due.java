@@ -1,3 +1,6 @@
+import java.util.Arrays;
+import java.util.function.IntUnaryOperator;
+
 /** Checks of answers, and ways to put bytes on a tape. */
 final class Due {
     private static int wrong;
@@ -7,10 +10,25 @@ final class Due {
     }
 
     static void due(int promise, String call, long got, long want) {
+        due("Promise " + promise, call, got, want);
+    }
+
+    /** The sentence names the promise, or the number of the Terms. */
+    static void due(String sentence, String call, long got, long want) {
         checks++;
         if (got != want) {
             wrong++;
-            System.out.println("promise " + promise + ": " + call + " answered " + got + ", due is " + want);
+            System.out.println(sentence + ": " + call + " answered " + got + ", due is " + want);
+        }
+    }
+
+    /** The last numbers that can be, on both sides, and the first that can't. */
+    static void within(String sentence, int least, int most, IntUnaryOperator call, IntUnaryOperator told, int refused) {
+        for (int can : new int[] {least, most}) {
+            due(sentence, "with " + can, call.applyAsInt(can), told.applyAsInt(can));
+        }
+        for (int cannot : new int[] {least - 1, most + 1, Integer.MIN_VALUE, Integer.MAX_VALUE}) {
+            due(sentence, "with " + cannot, call.applyAsInt(cannot), refused);
         }
     }
 
@@ -24,7 +42,7 @@ final class Due {
     }
 
     static void writeBytes(LostLanes x, int... bytes) {
-        int[] padded = java.util.Arrays.copyOf(bytes, (bytes.length + 19) / 20 * 20);
+        int[] padded = Arrays.copyOf(bytes, (bytes.length + 19) / 20 * 20);
         for (int i = 0; i < padded.length; i += 20) {
             x.feed(four(padded, i), four(padded, i + 4), four(padded, i + 8), four(padded, i + 12), four(padded, i + 16));
         }
