@@ -8,7 +8,8 @@ public final class EdgesTest {
 
     public static void main(String[] args) {
         promise1();
-        promises2To7();
+        promises2And4();
+        promises3To7();
         promise8();
         promise9();
         promises10And11();
@@ -95,12 +96,33 @@ public final class EdgesTest {
         due(t, "another object", y.count(13) + y.status() + y.count(9), 0);
     }
 
-    private static void promises2To7() {
+    private static void promises2And4() {
+        String t = "Promise 2: a LANE: its number. -1 (the same CORNER twice, too); -5";
+        LostLanes x = new LostLanes();
+        for (int i = 0; i < 10; i++) {
+            due(t, "one that can't be", x.lane(7, 7, 9, 4), -1);
+            due(t, "lane", x.lane(7, 6, 9, 4), i);
+        }
+        due(t, "the 11th", x.lane(7, 6, 9, 4), -5);
+        due(t, "the 11th that can't be", x.lane(7, 7, 9, 4), -1);
+        due(t, "count(0)", x.count(0), 10);
+        String c = "Promise 4: a CHILD: its number. -1; -5";
+        for (int i = 0; i < 4; i++) {
+            due(c, "one that can't be", x.child(10, 7), -1);
+            due(c, "child", x.child(9, 7), i);
+        }
+        due(c, "the 5th", x.child(9, 7), -5);
+        due(c, "the 5th that can't be", x.child(9, 8), -1);
+        due(c, "count(1)", x.count(1), 4);
+    }
+
+    private static void promises3To7() {
         LostLanes x = new LostLanes();
         x.lane(5, 2, 8, 3);
         int[] told = {5, 2, 8, 3, -1};
         for (int what = 0; what < 5; what++) {
-            due("Promise 3: of a LANE one CORNER, as told, the other, LONG, SIGHT, the NAME", "at(0, " + what + ")", x.at(0, what), told[what]);
+            due("Promise 3: of a LANE one CORNER, as told, the other, LONG, SIGHT, the NAME", "at(0, " + what + ")",
+                    x.at(0, what), told[what]);
         }
         Due.within("Promise 3: what 0 .. 4", 0, 3, w -> x.at(0, w), w -> told[w], -1);
         due("Promise 3: what 0 .. 4", "at(0, 5)", x.at(0, 5), -1);
@@ -456,7 +478,7 @@ public final class EdgesTest {
         x.wander(0);
         x.wander(0);
         run.accept(x);
-        due("Promise 21: nothing that was ahead of a lane(), child(), terms(), row(), back() that was not REFUSED can be undone",
+        due("Promise 21: nothing that was ahead of a lane(), child(), terms(), row(), back() that was not REFUSED",
                 "count(5) behind " + call, x.count(5), left);
         due("Promise 21: -3 there is none", "undo() behind " + call, x.undo(), left == 0 ? -3 : 0);
     }
@@ -551,7 +573,8 @@ public final class EdgesTest {
     }
 
     private static void promises28To31() {
-        LostLanes x = Boroughs.plated(new int[] {0, 1, 1, 19}, new int[] {1, 2, 1, 0}, new int[] {2, 3, 1, 19}, new int[] {3, 4, 1, 0});
+        LostLanes x = Boroughs.plated(new int[] {0, 1, 1, 19}, new int[] {1, 2, 1, 0}, new int[] {2, 3, 1, 19},
+                new int[] {3, 4, 1, 0});
         x.pass();
         int undoable = x.count(5);
         Due.within("Promise 28: a NAME 0 .. 19. -1", 0, 19, n -> {
@@ -580,17 +603,20 @@ public final class EdgesTest {
     }
 
     private static void promises32To36() {
-        LostLanes x = Boroughs.plated(new int[] {0, 1, 1, 0}, new int[] {1, 2, 1, 19}, new int[] {3, 2, 9, -1}, new int[] {7, 3, 9, -1});
+        LostLanes x = Boroughs.plated(new int[] {0, 1, 1, 0}, new int[] {1, 2, 1, 19}, new int[] {3, 2, 9, -1},
+                new int[] {7, 3, 9, -1});
         Due.within("Promise 32: a CORNER", 0, 7, c -> x.letter(c, 19, -1), c -> c == 0 ? 1 : 18, -1);
         Due.within("Promise 32: a NAME", 0, 19, n -> x.letter(7, n, -2), n -> n == 0 ? 0 : 1, -1);
         int[] byI = {1, 18, 3, 2, -1};
         for (int i = -2; i < 3; i++) {
-            due("Promise 32: how LONG (i NONE), the LANE (i -2), the i-th CORNER (i 0 on)", "letter(7, 19, " + i + ")", x.letter(7, 19, i), byI[i + 2]);
+            due("Promise 32: how LONG (i NONE), the LANE (i -2), the i-th CORNER (i 0 on)", "letter(7, 19, " + i + ")",
+                    x.letter(7, 19, i), byI[i + 2]);
         }
         due("Promise 32: NONE (others)", "letter(7, 19, -3)", x.letter(7, 19, -3), -1);
         due("Promise 32: NONE (others)", "letter(7, 19, MIN)", x.letter(7, 19, Integer.MIN_VALUE), -1);
         due("Promise 32: NONE (others)", "letter(7, 19, MAX)", x.letter(7, 19, Integer.MAX_VALUE), -1);
-        Due.within("Promise 33: how many (what 0), that of LANE l (1 + l). NONE", 0, 4, w -> x.apart(w), w -> w == 0 ? 2 : 1, -1);
+        Due.within("Promise 33: how many (what 0), that of LANE l (1 + l). NONE", 0, 4, w -> x.apart(w),
+                w -> w == 0 ? 2 : 1, -1);
         due("Promise 33: that of LANE l", "apart(1)", x.apart(1), 0);
         due("Promise 34: how many twos", "alike()", x.alike(), 0);
         due("Promise 35: a ROUND", "round()", x.round(), 40);
@@ -613,7 +639,8 @@ public final class EdgesTest {
         x.child(1, 3);
         Due.law(x, "turns 1");
         Due.law(x, "bars");
-        Due.within("Promise 38: a LAW (NONE: none). NONE (no such LAW)", -1, 1, l -> x.compare(l, 0), l -> l == -1 ? 1 : 0, -1);
+        Due.within("Promise 38: a LAW (NONE: none). NONE (no such LAW)", -1, 1, l -> x.compare(l, 0),
+                l -> l == -1 ? 1 : 0, -1);
         due("Promise 38: a LAW", "compare(0, 0)", x.compare(0, 0), 3);
         Due.within("Promise 38: NONE (no such CHILD)", 0, 1, c -> x.compare(0, c), c -> c == 0 ? 3 : 0, -1);
     }

@@ -122,6 +122,9 @@ public final class PaperTest {
         due(t, "where(0, 60)", x.where(0, 60), 1);
         due(t, "where(0, 61)", x.where(0, 61), -1);
         due(t, "where(0, -1)", x.where(0, -1), -1);
+        LostLanes kept = led(Boroughs.line(1, 1), 0, "bars if hour = 1 or last = lane");
+        due(t + ": it stays for an HOUR, LAST stays, too", "where(0, 2)", kept.where(0, 2), 1);
+        due(t + ": it stays for an HOUR, LAST stays, too", "where(0, 3)", kept.where(0, 3), 2);
         String h = "Terms III: HOURS go on beyond 999, too";
         LostLanes y = led(Boroughs.line(9), 0, "bars if hour < 1000");
         y.terms(0, 999);
@@ -156,6 +159,13 @@ public final class PaperTest {
         due(t, "three lanes of 2, one of 5", y.far(0, 3), 5);
         y.lane(3, 0, 9, 0);
         due(t, "a longer one between the same corners", y.far(3, 0), 5);
+        for (int over = 0; over < 8; over++) {
+            LostLanes star = new LostLanes();
+            for (int c = 0; c < 8; c++) {
+                star.lane(c, over, 4, 0);
+            }
+            due(t, "over the corner " + over, star.far((over + 1) % 8, (over + 7) % 8), 8);
+        }
     }
 
     private static void found() {
@@ -187,6 +197,13 @@ public final class PaperTest {
         due(t, "two there: post(0)", y.post(0), 7);
         y.child(1, 6);
         due(t, "from none all are: post(0)", y.post(0), -1);
+        y.lead(2, 7);
+        due(t, "all there again: post(0)", y.post(0), 7);
+        due(t, "all there again: post(1)", y.post(1), 0);
+        for (int c = 0; c < 8; c++) {
+            due(t, "a child at the corner " + c, Boroughs.with(Boroughs.square(), c).post(0), c);
+        }
+        y.child(1, 6);
         due(t, "from none all are: post(1)", y.post(1), -1);
         due(t, "no children: post(0)", Boroughs.square().post(0), -1);
         due(t, "no children: post(1)", Boroughs.square().post(1), -1);
@@ -233,7 +250,8 @@ public final class PaperTest {
         due(t, "in 60", led(Boroughs.line(1), 0, "bars if hour > 0 and hour < 59").again(0), 60);
         due(t, "in 61", led(Boroughs.line(1), 0, "bars if hour > 0 and hour < 60").again(0), -1);
         due(t, "never", led(Boroughs.line(1), 0, "bars if hour > 0").again(0), -1);
-        due(t, "round a square", led(Boroughs.square(), 0, "bars if last = lane; bars if lane = 3 and last < 0").again(0), 4);
+        LostLanes round = led(Boroughs.square(), 0, "bars if last = lane; bars if lane = 3 and last < 0");
+        due(t, "round a square", round.again(0), 4);
     }
 
     // Terms III, names
@@ -279,6 +297,11 @@ public final class PaperTest {
         gone(t + " (two lanes alike)", two, 4, 3, 3);
         hear(two, 5, 6, 5);
         gone(t + " (two lanes alike, twice)", two, 8, 3, 3);
+        LostLanes meet = Boroughs.plated(new int[] {0, 1, 1, 5}, new int[] {1, 2, 1, 5});
+        hear(meet, 5);
+        gone(t + " (two lanes that meet)", meet, 4, 7, 7);
+        hear(meet, 5, 5);
+        gone(t + " (two lanes that meet, twice)", meet, 6, 7, 7);
     }
 
     private static void letter() {
@@ -341,6 +364,10 @@ public final class PaperTest {
         due(w, "how long", ways.letter(0, 9, -1), 2);
         LostLanes sooner = Boroughs.plated(new int[] {0, 5, 1, -1}, new int[] {5, 3, 1, -1}, new int[] {0, 3, 2, -1},
                 new int[] {3, 7, 1, 9});
+        LostLanes over = Boroughs.plated(new int[] {5, 0, 1, -1}, new int[] {0, 6, 1, -1}, new int[] {6, 7, 1, 9},
+                new int[] {5, 1, 1, -1}, new int[] {1, 6, 1, -1});
+        due(w, "over the corner 0", over.letter(5, 9, 0), 0);
+        due(w, "over the corner 0, then 6", over.letter(5, 9, 1), 6);
         due(w, "3 at once is ahead of 5, 3", sooner.letter(0, 9, 0), 3);
         due(w, "and ends there", sooner.letter(0, 9, 1), -1);
     }
@@ -435,6 +462,16 @@ public final class PaperTest {
         threes.lane(0, 1, 9, 0);
         threes.lane(0, 1, 1, 0);
         due(t, "back by the shortest lane", threes.round(), 20);
+        LostLanes star = new LostLanes();
+        for (int c = 1; c < 8; c++) {
+            star.lane(0, c, c, 0);
+        }
+        due(t, "all eight corners odd", star.round(), 56);
+        LostLanes four = Boroughs.square();
+        four.lane(0, 2, 9, 0);
+        four.lane(1, 3, 9, 0);
+        // Four corners odd: 0 and 1, 2 and 3 (2 + 4) are put together, not 1 and 2, 0 and 3 (3 + 5).
+        due(t, "four corners odd", four.round(), 14 + 18 + 6);
     }
 
     private static void dead() {
@@ -503,69 +540,66 @@ public final class PaperTest {
         return (int) ((s * 1103L + 12345) % 1000003);
     }
 
-    /** Two children in a square, child 1 with a last lane; decades of one hour compared with the same by calls. */
-    private static void draws() {
-        String t = "Terms IV: DRAWS of CHILDREN, of 8, of 4: at 0, 1 that CHILD CRIES, at 2 it is LED, at 3 nothing";
-        int[] seen = new int[8];
-        for (int seed = 0; seed <= 1000000; seed += seed == 120 ? 999800 : 1) {
-            LostLanes x = Boroughs.square();
-            x.child(4, 0);
-            x.child(6, 2);
-            x.wander(1);
-            int s = draw(seed);
-            int child = s % 2;
+    /** Decades compared with the same steps by calls on the object itself; which draws there were, and if they could be. */
+    private static void byCalls(String sentence, LostLanes x, int seed, int n, int times, int[] seen) {
+        String decades = "decades(" + seed + ", " + n + ")";
+        int named = x.decades(seed, n);
+        int s = seed;
+        for (int i = 0; i < times; i++) {
+            s = draw(s);
+            int child = s % x.count(1);
             s = draw(s);
             int corner = s % 8;
             s = draw(s);
-            int named = x.decades(seed, 1);
-            boolean can = s % 4 < 2 ? x.of(child, 2) >= 0 : x.of(child, 1) != corner;
-            if (s % 4 < 2) {
-                x.cry(child);
-            } else if (s % 4 == 2) {
-                x.lead(child, corner);
-            }
-            seen[s % 4 * 2 + (can ? 1 : 0)]++;
-            x.pass();
-            due(t, "decades(" + seed + ", 1)", named, x.count(2));
-            for (int k = 0; k < 2; k++) {
-                due(t, "drawn(" + k + ", 0) behind " + seed, x.drawn(k, 0), x.of(k, 1));
-            }
-            for (int k = 0; k < 4; k++) {
-                due(t, "drawn(" + k + ", 1) behind " + seed, x.drawn(k, 1), x.at(k, 4));
+            int what = s % 4;
+            int told = what < 2 ? x.cry(child) : what == 2 ? x.lead(child, corner) : 0;
+            seen[2 * what + (told < 0 ? 0 : 1)]++;
+            due(sentence, "pass() by hand at " + x.count(13), Math.min(0, x.pass()), 0);
+        }
+        due(sentence, decades, named, x.count(2));
+        for (int k = 0; k < x.count(1); k++) {
+            due(sentence, "drawn(" + k + ", 0) behind " + decades, x.drawn(k, 0), x.of(k, 1));
+        }
+        for (int k = 0; k < x.count(0); k++) {
+            due(sentence, "drawn(" + k + ", 1) behind " + decades, x.drawn(k, 1), x.at(k, 4));
+        }
+    }
+
+    private static void draws() {
+        String t = "Terms IV: DRAWS of CHILDREN, of 8, of 4: at 0, 1 that CHILD CRIES, at 2 it is LED, at 3 nothing";
+        int[] seen = new int[8];
+        for (int kids = 1; kids <= 4; kids++) {
+            for (int seed : new int[] {0, 1, 2, 3, 4, 5, 6, 7, 8, 9, 500000, 999999, 1000000}) {
+                for (int n : new int[] {1, 2, 3, 25}) {
+                    LostLanes x = Boroughs.square();
+                    for (int k = 0; k < kids; k++) {
+                        x.child(k + 1, 2 * k);
+                    }
+                    Boroughs.under(x, "turns hour + age; says hour");
+                    byCalls(t, x, seed, n, n, seen);
+                }
             }
         }
         for (int kind = 0; kind < 8; kind++) {
-            due(t, "seeds of the kind " + kind, seen[kind] > 0 ? 1 : 0, 1);
+            // At 3 there is nothing that can't be.
+            due(t, "draws of the kind " + kind + " were seen", seen[kind] > 0 ? 1 : 0, kind == 6 ? 0 : 1);
         }
-        Due.within("Terms IV: the SEED (0 .. 1,000,000)", 0, 1000000, s -> Boroughs.with(new LostLanes(), 0).decades(s, 1), s -> 0, -1);
+        Due.within("Terms IV: the SEED (0 .. 1,000,000)", 0, 1000000,
+                s -> Boroughs.with(new LostLanes(), 0).decades(s, 1), s -> 0, -1);
         Due.within("Terms IV: n 1 .. 60", 1, 60, n -> Boroughs.with(new LostLanes(), 0).decades(1, n), n -> 0, -1);
     }
 
-    /** A child that is in the corner 1 behind each odd number of hours, if it is not led. */
     private static void decadesAtTheLastHour() {
         String t = "Terms IV: at HOUR 999 it ends";
-        int[][] hours = {{999, 60, 0}, {998, 60, 1}, {998, 1, 1}, {997, 60, 2}, {997, 1, 1}, {940, 60, 59}, {939, 60, 60}, {0, 60, 60}};
+        int[][] hours = {{999, 60, 0}, {999, 1, 0}, {998, 60, 1}, {998, 1, 1}, {997, 60, 2}, {997, 1, 1}, {940, 60, 59},
+            {939, 60, 60}, {938, 60, 60}, {0, 60, 60}};
         for (int[] h : hours) {
-            LostLanes x = Boroughs.with(Boroughs.line(1), 0);
-            x.wander(0);
-            x.terms(0, h[0]);
-            int named = x.decades(3, h[1]);
-            int s = 3;
-            for (int i = 0; i < h[2]; i++) {
-                s = draw(s);
-                s = draw(s);
-                int corner = s % 8;
-                s = draw(s);
-                if (s % 4 < 2) {
-                    x.cry(0);
-                } else if (s % 4 == 2) {
-                    x.lead(0, corner);
-                }
-                due(t, "pass() by hand, hour " + x.count(13), Math.min(0, x.pass()), 0);
+            for (int seed = 0; seed < 4; seed++) {
+                LostLanes x = Boroughs.with(Boroughs.line(1), 0);
+                x.wander(0);
+                x.terms(0, h[0]);
+                byCalls(t, x, seed, h[1], h[2], new int[8]);
             }
-            due(t, "decades(3, " + h[1] + ") at " + h[0], named, x.count(2));
-            due(t, "drawn(0, 0) at " + h[0], x.drawn(0, 0), x.of(0, 1));
-            due(t, "drawn(0, 1) at " + h[0], x.drawn(0, 1), x.at(0, 4));
         }
     }
 
@@ -693,9 +727,19 @@ public final class PaperTest {
         due(k, "kept anew", again.count(15), 7);
         LostLanes empty = new LostLanes();
         empty.image(1);
-        empty.lane(0, 1, 1, 0);
+        empty.lane(0, 1, 2, 3);
+        empty.child(4, 5);
+        empty.image(0);
         empty.back(1);
-        due(k, "an empty borough", empty.count(0), 0);
+        due(k, "an empty borough", empty.count(0) + empty.count(1), 0);
+        empty.lane(6, 7, 8, 4);
+        empty.child(9, 3);
+        empty.back(0);
+        for (int what = 0; what < 4; what++) {
+            due(t, "at(0, " + what + "), another one in its place", empty.at(0, what), what);
+        }
+        due(t, "of(0, 0), another one in its place", empty.of(0, 0), 4);
+        due(t, "of(0, 1), another one in its place", empty.of(0, 1), 5);
     }
 
     private static void imagesDoNotKeep() {

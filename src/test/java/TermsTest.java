@@ -229,6 +229,9 @@ public final class TermsTest {
         law(d, "turns1if1=1or2=2", -1);
         law(d, "turns 1if 1=1", -1);
         law(d, "turns 1age", 7);
+        orders(d, "pass if at0=plate9", -1);
+        orders(d, "pass times20if 1=2", -1);
+        orders(d, "lead0to1", -1);
         String b = "Terms II: any blanks (32) between";
         law(b, "turns1", -1);
         law(b, "    turns     1    ", -1);
@@ -379,6 +382,11 @@ public final class TermsTest {
         LostLanes x = Boroughs.with(new LostLanes(), 0);
         x.force(Due.law(x, numbers));
         due(t, "all 50 tell", x.of(0, 3), 50);
+        for (int i = 1; i <= 9; i++) {
+            due(t, "text behind text, so", Due.orders(x, "pass if 49 = 1" + "+1".repeat(48)), 1);
+            due(t, "text behind text, not so", Due.orders(x, "pass if 48 = 1" + "+1".repeat(48)), 0);
+            due(t, "text behind text, a fault at the 51st", Due.orders(x, "pass if 49 = 1" + "+1".repeat(49)), -6);
+        }
     }
 
     private static void brackets() {
@@ -405,6 +413,10 @@ public final class TermsTest {
         LostLanes x = Boroughs.with(new LostLanes(), 0);
         x.force(Due.law(x, "turns [[[[[[[[1+1]*2]+1]*2]+1]*2]+1]*2]"));
         due(t, "eight reckoned", x.of(0, 3), 46);
+        for (int i = 0; i < 9; i++) {
+            due(t, "eight that are not closed", Due.law(x, "turns [[[[[[[[1"), -6);
+        }
+        due(t, "eight, in a text behind those", Due.law(x, "turns [[[[[[[[1]]]]]]]]"), 1);
     }
 
     private static void faultAtTheEnd() {
@@ -570,6 +582,11 @@ public final class TermsTest {
             due(t + " (says)", words[i], x.asks(1, 3, 0), Math.min(19, 2 + ofLane[i]));
             due(t + " (bars)", words[i], x.asks(1, 3, 1), 1);
         }
+        LostLanes three = Boroughs.with(Boroughs.bundle(3), 0);
+        for (String word : new String[] {"lane", "long", "sight"}) {
+            Boroughs.under(three, "turns 3 + " + word + "; bars if lane = 9");
+            due(t + " (turns: lane, long, sight -1)", word + " of one who wanders", three.of(0, 4), 2);
+        }
         for (String not : new String[] {"done", "latest", "named", "kids", "at 0", "plate 0", "to", "if", "or", "turns"}) {
             law(t, "turns " + not, 6);
         }
@@ -695,7 +712,8 @@ public final class TermsTest {
         due(t, "times 0020", Due.orders(new LostLanes(), "pass times 0020"), 20);
         due(t, "once without", Due.orders(new LostLanes(), "pass"), 1);
         LostLanes x = Boroughs.with(new LostLanes(), 0);
-        due(t, "12 clauses, 20 times", Due.orders(x, "lead 0 to 1-at 0 times 20" + ";lead 0 to 1-at 0 times 20".repeat(11)), 240);
+        String often = "lead 0 to 1-at 0 times 20";
+        due(t, "12 clauses, 20 times", Due.orders(x, often + (";" + often).repeat(11)), 240);
         due(t, "an even number of times", x.of(0, 1), 0);
     }
 
@@ -715,13 +733,15 @@ public final class TermsTest {
         orders(t, "pass if plate 4294967296 = 1", 14);
         orders(t, "pass if plate = 1", 14);
         orders(t, "pass if plate", 13);
-        for (String not : new String[] {"child", "age", "lane", "long", "sight", "corner", "last", "mood", "to", "times"}) {
+        String[] others = {"child", "age", "lane", "long", "sight", "corner", "last", "mood", "to", "times"};
+        for (String not : others) {
             orders(t, "pass if " + not + " = 1", 8);
         }
         LostLanes x = new LostLanes();
         String empty = "hour = 0 and done = 0 and latest = 0-1 and named = 0 and kids = 0";
         due(t, "words of an empty borough", Due.orders(x, "pass if " + empty), 1);
-        due(t, "at, plate: -1 without", Due.orders(x, "pass if at 0 = 0-1 and at 3 = 0-1 and plate 0 = 0-1 and plate 9 = 0-1"), 1);
+        String without = "at 0 = 0-1 and at 3 = 0-1 and plate 0 = 0-1 and plate 9 = 0-1";
+        due(t, "at, plate: -1 without", Due.orders(x, "pass if " + without), 1);
         LostLanes y = Boroughs.plated(new int[] {0, 1, 1, 0}, new int[] {1, 2, 1, 19}, new int[] {2, 3, 1, -1});
         y.child(1, 0);
         y.child(1, 6);
@@ -739,12 +759,16 @@ public final class TermsTest {
         due(t, "if broken", Due.orders(x, "wander 9 if 1/0 = 2"), 0);
         due(t, "sums are not asked then", Due.orders(x, "wander 1/0 if 1 = 2; lead 1/0 to 1/0 if 1/0 = 1"), 0);
         due(t, "none run", x.status(), 0);
-        due(t, "done counts runs, not clauses", Due.orders(x, "pass times 3; pass if 1=2; pass if done = 3; pass if done = 3"), 4);
+        String counted = "pass times 3; pass if 1=2; pass if done = 3; pass if done = 3";
+        due(t, "done counts runs, not clauses", Due.orders(x, counted), 4);
         due(t, "done begins anew", Due.orders(x, "pass if done = 0"), 1);
         LostLanes y = Boroughs.with(Boroughs.square(), 0);
         due(t, "latest: -1 ahead of a cry", Due.orders(y, "wander 0 if latest = 0-1; cry 0; wander 0 if latest = 1"), 3);
         due(t, "latest begins anew", Due.orders(y, "wander 0 if latest = 1"), 0);
-        due(t, "latest of the latest cry", Due.orders(y, "wander 0; cry 0; lead 0 to 2; wander 0; cry 0; pass if latest = 2"), 6);
+        String other = "cry 0; lead 0 to 5; pass if latest = 1; lead 0 to 1 if latest = 1";
+        due(t, "latest stays behind other orders", Due.orders(y, other), 4);
+        String twice = "wander 0; cry 0; lead 0 to 2; wander 0; cry 0; pass if latest = 2";
+        due(t, "latest of the latest cry", Due.orders(y, twice), 6);
         LostLanes z = Boroughs.with(Boroughs.line(1), 0);
         due(t, "latest 0 is a name", Due.orders(z, "wander 0; cry 0; pass if latest = 0"), 3);
         due(t, "what can be undone", z.count(5), 3);
