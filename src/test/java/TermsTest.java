@@ -164,20 +164,12 @@ public final class TermsTest {
 
     // Terms II, of both languages
 
-    private static int faultOf(boolean asLaw, String text) {
-        LostLanes x = new LostLanes();
-        Due.write(x, text);
-        int told = asLaw ? x.law() : x.orders();
-        // A text that can't be is refused by -6, and one that can be by nothing that is told of texts.
-        return told == -6 == (x.fault() >= 0) ? x.fault() : -99;
-    }
-
     private static void law(String sentence, String text, int fault) {
-        due(sentence, "fault() of the law \"" + text + "\"", faultOf(true, text), fault);
+        due(sentence, "fault() of the law \"" + text + "\"", Lawbook.faultOf(true, text), fault);
     }
 
     private static void orders(String sentence, String text, int fault) {
-        due(sentence, "fault() of the orders \"" + text + "\"", faultOf(false, text), fault);
+        due(sentence, "fault() of the orders \"" + text + "\"", Lawbook.faultOf(false, text), fault);
     }
 
     private static void tape() {
@@ -249,17 +241,17 @@ public final class TermsTest {
             String one = asLaw ? "bars;" : "pass;";
             String twelve = one.repeat(12);
             IntFunction<String> name = n -> (asLaw ? "law" : "orders") + " of clauses: " + n;
-            due(t, name.apply(1), faultOf(asLaw, one.substring(0, 4)), -1);
-            due(t, name.apply(11), faultOf(asLaw, one.repeat(11).substring(0, 54)), -1);
-            due(t, name.apply(12), faultOf(asLaw, twelve.substring(0, 59)), -1);
-            due(t, name.apply(13), faultOf(asLaw, twelve + "   " + one), 63);
-            due(t, "no 13th clause", faultOf(asLaw, twelve), 60);
-            due(t, "no 13th clause, blanks", faultOf(asLaw, twelve + "  "), 62);
-            due(t, "a 13th that can't begin so", faultOf(asLaw, twelve + "x"), 60);
-            due(t, "another sign behind the 12th", faultOf(asLaw, twelve.substring(0, 59) + ","), 59);
-            due(t, "no clause between", faultOf(asLaw, one + ";" + one), 5);
-            due(t, "no clause ahead", faultOf(asLaw, ";" + one), 0);
-            due(t, "no clause behind", faultOf(asLaw, one), 5);
+            due(t, name.apply(1), Lawbook.faultOf(asLaw, one.substring(0, 4)), -1);
+            due(t, name.apply(11), Lawbook.faultOf(asLaw, one.repeat(11).substring(0, 54)), -1);
+            due(t, name.apply(12), Lawbook.faultOf(asLaw, twelve.substring(0, 59)), -1);
+            due(t, name.apply(13), Lawbook.faultOf(asLaw, twelve + "   " + one), 63);
+            due(t, "no 13th clause", Lawbook.faultOf(asLaw, twelve), 60);
+            due(t, "no 13th clause, blanks", Lawbook.faultOf(asLaw, twelve + "  "), 62);
+            due(t, "a 13th that can't begin so", Lawbook.faultOf(asLaw, twelve + "x"), 60);
+            due(t, "another sign behind the 12th", Lawbook.faultOf(asLaw, twelve.substring(0, 59) + ","), 59);
+            due(t, "no clause between", Lawbook.faultOf(asLaw, one + ";" + one), 5);
+            due(t, "no clause ahead", Lawbook.faultOf(asLaw, ";" + one), 0);
+            due(t, "no clause behind", Lawbook.faultOf(asLaw, one), 5);
         }
         LostLanes x = Boroughs.with(new LostLanes(), 0);
         due(t, "the 12th is run", Due.orders(x, "pass;".repeat(11) + "lead 0 to 5"), 12);
@@ -436,96 +428,82 @@ public final class TermsTest {
         law(t, "turns 1", -1);
     }
 
-    /** 77 is told if the sum is broken, as the clause ahead holds then. */
-    private static int turned(String sum) {
-        LostLanes x = Boroughs.with(new LostLanes(), 0);
-        x.force(Due.law(x, "turns 77; turns " + sum));
-        return x.of(0, 3);
-    }
-
-    /** 1, 0, or 2 for a test that is broken, as its "not" is no more so than itself. */
-    private static int tested(String test) {
-        boolean is = turned("1 if (" + test + ")") == 1;
-        boolean isNot = turned("1 if not (" + test + ")") == 1;
-        return is && isNot ? -9 : is ? 1 : isNot ? 0 : 2;
-    }
-
     private static void beyond() {
         String t = "Terms II: beyond 1,000,000,000 either way is BROKEN";
         String most = "1000*1000*1000";
         String least = "[0-1000]*1000*1000";
-        due(t, "1,000,000,000 by *", turned(most), 99);
-        due(t, "-1,000,000,000 by *", turned(least), 0);
-        due(t, "1,000,000,000 by +", turned(most + "-1+1"), 99);
-        due(t, "1,000,000,001 by +", turned(most + "+1"), 77);
-        due(t, "1,000,000,001 by -", turned(most + "-[0-1]"), 77);
-        due(t, "-1,000,000,000 by -", turned(least + "+1-1"), 0);
-        due(t, "-1,000,000,001 by -", turned(least + "-1"), 77);
-        due(t, "-1,000,000,001 by +", turned(least + "+[0-1]"), 77);
-        due(t, "1,001,000,000 by *", turned("1000*1000*[1000+1]"), 77);
-        due(t, "-1,001,000,000 by *", turned("1000*1000*[0-1000-1]"), 77);
-        due(t, "2 to the 32nd by *", turned("[65*1000+536]*[65*1000+536]"), 77);
-        due(t, "10 to the 18th by *", turned("[" + most + "]*[" + most + "]"), 77);
-        due(t, "it comes back", turned(most + "+1-1"), 77);
-        due(t, "it comes back within brackets", turned("[" + most + "+1]-[" + most + "]"), 77);
-        due(t, "it comes back by 0", turned("[" + most + "+1]*0"), 77);
-        due(t, "a TEST of 1,000,000,000", tested(most + "=" + most), 1);
-        due(t, "a TEST of 1,000,000,001 on the left", tested(most + "+1>0"), 2);
-        due(t, "a TEST of 1,000,000,001 on the right", tested("0<" + most + "+1"), 2);
-        due(t, "a TEST of -1,000,000,000", tested(least + "<0"), 1);
-        due(t, "a TEST of -1,000,000,001", tested(least + "-1<0"), 2);
-        due(t, "a TEST of both ends", tested(least + "<" + most), 1);
+        due(t, "1,000,000,000 by *", Lawbook.turned(most), 99);
+        due(t, "-1,000,000,000 by *", Lawbook.turned(least), 0);
+        due(t, "1,000,000,000 by +", Lawbook.turned(most + "-1+1"), 99);
+        due(t, "1,000,000,001 by +", Lawbook.turned(most + "+1"), 77);
+        due(t, "1,000,000,001 by -", Lawbook.turned(most + "-[0-1]"), 77);
+        due(t, "-1,000,000,000 by -", Lawbook.turned(least + "+1-1"), 0);
+        due(t, "-1,000,000,001 by -", Lawbook.turned(least + "-1"), 77);
+        due(t, "-1,000,000,001 by +", Lawbook.turned(least + "+[0-1]"), 77);
+        due(t, "1,001,000,000 by *", Lawbook.turned("1000*1000*[1000+1]"), 77);
+        due(t, "-1,001,000,000 by *", Lawbook.turned("1000*1000*[0-1000-1]"), 77);
+        due(t, "2 to the 32nd by *", Lawbook.turned("[65*1000+536]*[65*1000+536]"), 77);
+        due(t, "10 to the 18th by *", Lawbook.turned("[" + most + "]*[" + most + "]"), 77);
+        due(t, "it comes back", Lawbook.turned(most + "+1-1"), 77);
+        due(t, "it comes back within brackets", Lawbook.turned("[" + most + "+1]-[" + most + "]"), 77);
+        due(t, "it comes back by 0", Lawbook.turned("[" + most + "+1]*0"), 77);
+        due(t, "a TEST of 1,000,000,000", Lawbook.tested(most + "=" + most), 1);
+        due(t, "a TEST of 1,000,000,001 on the left", Lawbook.tested(most + "+1>0"), 2);
+        due(t, "a TEST of 1,000,000,001 on the right", Lawbook.tested("0<" + most + "+1"), 2);
+        due(t, "a TEST of -1,000,000,000", Lawbook.tested(least + "<0"), 1);
+        due(t, "a TEST of -1,000,000,001", Lawbook.tested(least + "-1<0"), 2);
+        due(t, "a TEST of both ends", Lawbook.tested(least + "<" + most), 1);
     }
 
     private static void dividedByNothing() {
         String t = "Terms II: divided by 0 (/ cut towards 0, % what is left then)";
-        due(t, "1/0", turned("1/0"), 77);
-        due(t, "0/0", turned("0/0"), 77);
-        due(t, "1%0", turned("1%0"), 77);
-        due(t, "0%0", turned("0%0"), 77);
-        due(t, "1/[1-1]", turned("1/[1-1]"), 77);
-        due(t, "0*[1/0]", turned("0*[1/0]"), 77);
-        due(t, "0/1", turned("0/1"), 0);
-        due(t, "1/1", turned("1/1"), 1);
-        due(t, "7/2", turned("7/2"), 3);
-        due(t, "-7/2", turned("50+[0-7]/2"), 47);
-        due(t, "7/-2", turned("50+7/[0-2]"), 47);
-        due(t, "-7/-2", turned("50+[0-7]/[0-2]"), 53);
-        due(t, "-1/2", turned("50+[0-1]/2"), 50);
-        due(t, "7%2", turned("50+7%2"), 51);
-        due(t, "-7%2", turned("50+[0-7]%2"), 49);
-        due(t, "7%-2", turned("50+7%[0-2]"), 51);
-        due(t, "-7%-2", turned("50+[0-7]%[0-2]"), 49);
-        due(t, "6%2", turned("50+6%2"), 50);
-        due(t, "2%6", turned("2%6"), 2);
-        due(t, "the least by -1", turned("[0-1000]*1000*1000/[0-1]"), 99);
-        due(t, "the TEST 1/0=1", tested("1/0=1"), 2);
-        due(t, "the TEST 1=1%0", tested("1=1%0"), 2);
+        due(t, "1/0", Lawbook.turned("1/0"), 77);
+        due(t, "0/0", Lawbook.turned("0/0"), 77);
+        due(t, "1%0", Lawbook.turned("1%0"), 77);
+        due(t, "0%0", Lawbook.turned("0%0"), 77);
+        due(t, "1/[1-1]", Lawbook.turned("1/[1-1]"), 77);
+        due(t, "0*[1/0]", Lawbook.turned("0*[1/0]"), 77);
+        due(t, "0/1", Lawbook.turned("0/1"), 0);
+        due(t, "1/1", Lawbook.turned("1/1"), 1);
+        due(t, "7/2", Lawbook.turned("7/2"), 3);
+        due(t, "-7/2", Lawbook.turned("50+[0-7]/2"), 47);
+        due(t, "7/-2", Lawbook.turned("50+7/[0-2]"), 47);
+        due(t, "-7/-2", Lawbook.turned("50+[0-7]/[0-2]"), 53);
+        due(t, "-1/2", Lawbook.turned("50+[0-1]/2"), 50);
+        due(t, "7%2", Lawbook.turned("50+7%2"), 51);
+        due(t, "-7%2", Lawbook.turned("50+[0-7]%2"), 49);
+        due(t, "7%-2", Lawbook.turned("50+7%[0-2]"), 51);
+        due(t, "-7%-2", Lawbook.turned("50+[0-7]%[0-2]"), 49);
+        due(t, "6%2", Lawbook.turned("50+6%2"), 50);
+        due(t, "2%6", Lawbook.turned("2%6"), 2);
+        due(t, "the least by -1", Lawbook.turned("[0-1000]*1000*1000/[0-1]"), 99);
+        due(t, "the TEST 1/0=1", Lawbook.tested("1/0=1"), 2);
+        due(t, "the TEST 1=1%0", Lawbook.tested("1=1%0"), 2);
     }
 
     private static void asksBehind() {
         String t = "Terms II: \"or\", \"and\" ask what stands behind only if it can still matter";
-        due(t, "so or broken", tested("1=1 or 1/0=1"), 1);
-        due(t, "not so or broken", tested("1=2 or 1/0=1"), 2);
-        due(t, "broken or so", tested("1/0=1 or 1=1"), 2);
-        due(t, "so and broken", tested("1=1 and 1/0=1"), 2);
-        due(t, "not so and broken", tested("1=2 and 1/0=1"), 0);
-        due(t, "broken and not so", tested("1/0=1 and 1=2"), 2);
-        due(t, "not so and broken or so", tested("1=2 and 1/0=1 or 1=1"), 1);
-        due(t, "not so and broken or not so", tested("1=2 and 1/0=1 or 1=2"), 0);
-        due(t, "so or broken and broken", tested("1=1 or 1/0=1 and 1/0=1"), 1);
-        due(t, "so or not so, then broken", tested("(1=1 or 1=2) and 1/0=1"), 2);
-        due(t, "not so or so or broken", tested("1=2 or 1=1 or 1/0=1"), 1);
-        due(t, "so and not so and broken", tested("1=1 and 1=2 and 1/0=1"), 0);
-        due(t, "not of so or broken", tested("not (1=1 or 1/0=1)"), 0);
-        due(t, "not of broken", tested("not 1/0=1"), 2);
-        due(t, "equal", tested("2=2"), 1);
-        due(t, "2<2", tested("2<2"), 0);
-        due(t, "1<2", tested("1<2"), 1);
-        due(t, "3<2", tested("3<2"), 0);
-        due(t, "2>2", tested("2>2"), 0);
-        due(t, "3>2", tested("3>2"), 1);
-        due(t, "1>2", tested("1>2"), 0);
+        due(t, "so or broken", Lawbook.tested("1=1 or 1/0=1"), 1);
+        due(t, "not so or broken", Lawbook.tested("1=2 or 1/0=1"), 2);
+        due(t, "broken or so", Lawbook.tested("1/0=1 or 1=1"), 2);
+        due(t, "so and broken", Lawbook.tested("1=1 and 1/0=1"), 2);
+        due(t, "not so and broken", Lawbook.tested("1=2 and 1/0=1"), 0);
+        due(t, "broken and not so", Lawbook.tested("1/0=1 and 1=2"), 2);
+        due(t, "not so and broken or so", Lawbook.tested("1=2 and 1/0=1 or 1=1"), 1);
+        due(t, "not so and broken or not so", Lawbook.tested("1=2 and 1/0=1 or 1=2"), 0);
+        due(t, "so or broken and broken", Lawbook.tested("1=1 or 1/0=1 and 1/0=1"), 1);
+        due(t, "so or not so, then broken", Lawbook.tested("(1=1 or 1=2) and 1/0=1"), 2);
+        due(t, "not so or so or broken", Lawbook.tested("1=2 or 1=1 or 1/0=1"), 1);
+        due(t, "so and not so and broken", Lawbook.tested("1=1 and 1=2 and 1/0=1"), 0);
+        due(t, "not of so or broken", Lawbook.tested("not (1=1 or 1/0=1)"), 0);
+        due(t, "not of broken", Lawbook.tested("not 1/0=1"), 2);
+        due(t, "equal", Lawbook.tested("2=2"), 1);
+        due(t, "2<2", Lawbook.tested("2<2"), 0);
+        due(t, "1<2", Lawbook.tested("1<2"), 1);
+        due(t, "3<2", Lawbook.tested("3<2"), 0);
+        due(t, "2>2", Lawbook.tested("2>2"), 0);
+        due(t, "3>2", Lawbook.tested("3>2"), 1);
+        due(t, "1>2", Lawbook.tested("1>2"), 0);
     }
 
     // Terms II, LAWS
@@ -610,13 +588,13 @@ public final class TermsTest {
 
     private static void holds() {
         String t = "Terms II: a CLAUSE HOLDS, if its \"if\" is so, and neither that nor its SUM is BROKEN";
-        due(t, "without if", turned("5"), 5);
-        due(t, "so", turned("5 if 1=1"), 5);
-        due(t, "not so", turned("5 if 1=2"), 77);
-        due(t, "a broken if", turned("5 if 1/0=1"), 77);
-        due(t, "a broken sum", turned("5/0"), 77);
-        due(t, "a broken sum, so", turned("5/0 if 1=1"), 77);
-        due(t, "both broken", turned("5/0 if 1/0=0"), 77);
+        due(t, "without if", Lawbook.turned("5"), 5);
+        due(t, "so", Lawbook.turned("5 if 1=1"), 5);
+        due(t, "not so", Lawbook.turned("5 if 1=2"), 77);
+        due(t, "a broken if", Lawbook.turned("5 if 1/0=1"), 77);
+        due(t, "a broken sum", Lawbook.turned("5/0"), 77);
+        due(t, "a broken sum, so", Lawbook.turned("5/0 if 1=1"), 77);
+        due(t, "both broken", Lawbook.turned("5/0 if 1/0=0"), 77);
         LostLanes x = Boroughs.with(Boroughs.square(), 0);
         Boroughs.under(x, "says 9; says 1/0; says 8 if 1/0=1; says 7 if 1=2; bars if 1/0=0; bars if 1=2");
         due(t, "says", x.asks(0, 0, 0), 9);
@@ -628,14 +606,14 @@ public final class TermsTest {
 
     private static void turnsAndSays() {
         String t = "Terms II: TURNS to 0 .. 99 (else the nearest), 0 without";
-        due(t, "-1", turned("0-1"), 0);
-        due(t, "0", turned("0"), 0);
-        due(t, "1", turned("1"), 1);
-        due(t, "98", turned("98"), 98);
-        due(t, "99", turned("99"), 99);
-        due(t, "100", turned("100"), 99);
-        due(t, "the last of three", turned("5; turns 6; turns 7"), 7);
-        due(t, "the last that holds", turned("5; turns 6; turns 7 if 1=2"), 6);
+        due(t, "-1", Lawbook.turned("0-1"), 0);
+        due(t, "0", Lawbook.turned("0"), 0);
+        due(t, "1", Lawbook.turned("1"), 1);
+        due(t, "98", Lawbook.turned("98"), 98);
+        due(t, "99", Lawbook.turned("99"), 99);
+        due(t, "100", Lawbook.turned("100"), 99);
+        due(t, "the last of three", Lawbook.turned("5; turns 6; turns 7"), 7);
+        due(t, "the last that holds", Lawbook.turned("5; turns 6; turns 7 if 1=2"), 6);
         due(t, "none", Boroughs.under(Boroughs.with(new LostLanes(), 0), "turns 5 if 1=2").of(0, 3), 0);
         due(t, "says and bars are no turns", Boroughs.under(Boroughs.with(new LostLanes(), 0), "says 5; bars").of(0, 3), 0);
         String s = "Terms II: SAYS 0 .. 19 of a LANE (else the nearest), its SIGHT without";

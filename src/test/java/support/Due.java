@@ -63,6 +63,10 @@ final class Due {
         return bytes[i] << 24 | bytes[i + 1] << 16 | bytes[i + 2] << 8 | bytes[i + 3];
     }
 
+    static int checks() {
+        return checks;
+    }
+
     static void close() {
         System.out.println(checks + " checks, " + wrong + " wrong");
         if (wrong != 0 || checks == 0) {
