@@ -550,6 +550,7 @@ public final class DocumentPromisesTest {
         due("post(0)", x.post(0), 2);
         says("in how many HOURS all are FOUND (1).");
         due("post(1)", x.post(1), 8);
+        due("of one child", alone(3).post(1), 0);
         says("NONE (no CHILDREN; from none all are).");
         due("no children", Boroughs.square().post(0), -1);
         due("no children", Boroughs.square().post(1), -1);
@@ -557,6 +558,10 @@ public final class DocumentPromisesTest {
         x.child(1, 7);
         due("from none", x.post(0), -1);
         due("from none", x.post(1), -1);
+        x.lead(2, 3);
+        due("from one again", x.post(0), 2);
+        due("from one again", x.post(1), 8);
+        x.lead(2, 7);
         promise(26, "posts", "int posts(int d, int what)");
         says("POSTS for d 0 .. 50: how many (what 0; no LANES: 0),");
         due("posts(4, 0)", x.posts(4, 0), 2);
@@ -619,13 +624,14 @@ public final class DocumentPromisesTest {
     }
 
     private static void namedAndLetter() {
-        LostLanes x = Boroughs.plated(new int[] {0, 1, 2, -1}, new int[] {1, 2, 3, 19}, new int[] {2, 3, 1, 0},
+        LostLanes x = Boroughs.plated(new int[] {0, 1, 2, 3}, new int[] {1, 2, 3, 19}, new int[] {2, 3, 1, 0},
                 new int[] {3, 4, 1, 19}, new int[] {5, 6, 1, 7});
         promise(31, "named", "int named(int name)");
         says("The lowest LANE that has a NAME.");
         due("named(19)", x.named(19), 1);
         due("named(0)", x.named(0), 2);
         due("named(7)", x.named(7), 4);
+        due("named(3)", x.named(3), 0);
         says("NONE.");
         due("no lane", x.named(1), -1);
         Document.within(0, 19, n -> x.named(n), n -> n == 0 ? 2 : 1, -1);
@@ -695,6 +701,7 @@ public final class DocumentPromisesTest {
         x.terms(1, 2);
         due("few(1, 1)", x.few(1, 1), 800000000000L);
         due("few(1, 0)", x.few(1, 0), 1000000000000L);
+        due("few(20, 0)", x.few(20, 0), 1000000000000L);
         x.terms(1, 10);
         due("few(19, 19)", x.few(19, 19), 0);
         due("few(20, 99)", x.few(20, 99), 0);

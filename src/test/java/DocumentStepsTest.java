@@ -619,6 +619,36 @@ public final class DocumentStepsTest {
         due("last", x.of(0, 2), 3);
         due("the name", x.at(3, 4), 8);
         due("what was heard", x.gone(1), 1 + 8);
+        LostLanes six = Boroughs.plated(new int[] {0, 1, 1, 3}, new int[] {1, 2, 1, 4});
+        hear(six, 3, 3, 3, 3, 3, 4);
+        six.image(1);
+        hear(six, 4, 4, 4, 4, 4, 4);
+        six.back(1);
+        due("six names heard", six.count(3), 6);
+        due("all six of them: from 0", six.gone(1), 1);
+        due("all six of them: to 2", six.gone(2), 4);
+        LostLanes y = new LostLanes();
+        y.image(0);
+        y.lane(0, 1, 2, 3);
+        y.child(4, 5);
+        y.hear(6);
+        y.image(1);
+        y.back(0);
+        due("an empty borough", y.count(0) + y.count(1) + y.count(3), 0);
+        y.lane(6, 7, 8, 4);
+        y.child(9, 3);
+        y.hear(1);
+        y.back(1);
+        for (int what = 0; what < 4; what++) {
+            due("at(0, " + what + "), another one in its place", y.at(0, what), what);
+        }
+        due("of(0, 0), another one in its place", y.of(0, 0), 4);
+        due("of(0, 1), another one in its place", y.of(0, 1), 5);
+        Boroughs.under(y, "says 6");
+        y.lead(0, 0);
+        y.wander(0);
+        y.cry(0);
+        due("what was heard, another one in its place", y.gone(0), 2);
     }
 
     private static void imagesDoNotKeep() {

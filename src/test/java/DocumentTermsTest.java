@@ -381,6 +381,10 @@ public final class DocumentTermsTest {
         orders(passes, -1);
         orders("pass pass", 5);
         due("twelve are run", Due.orders(new LostLanes(), passes), 12);
+        LostLanes x = Boroughs.under(alone(0), "turns 1;".repeat(11) + "bars if lane = 3");
+        due("twelve are asked, the last of which bars", x.asks(0, 3, 1), 1);
+        due("twelve are asked, none of which bars", x.asks(0, 0, 1), 0);
+        due("it wanders along the lane that is left", x.wander(0), 1);
         says("(FAULT at the 13th's first TOKEN).");
         law(bars + ";  turns 1", 62);
         law(bars + ";", 60);
@@ -482,6 +486,8 @@ public final class DocumentTermsTest {
         law("bars if (((((([[[1]]]=1))))))", 16);
         law("turns [1]+[1]+[1]+[1]+[1]+[1]+[1]+[1]+[1]", -1);
         turned("[[[[[[[[1+1]*2]+1]*2]+1]*2]+1]*2]", 46);
+        turned("1+1*[1+1*[1+1*[1+1*[1+1*[1+1*[1+1*[1+1*[1+1*1]]]]]]]]", 10);
+        tested("9=1+1*[1+1*[1+1*[1+1*[1+1*[1+1*[1+1*[1+1*1]]]]]]]", 1);
     }
 
     private static void faults() {
@@ -786,6 +792,7 @@ public final class DocumentTermsTest {
         ran(z, "lead 0 to at 1 - 2; pass if at 0 = 2 and at 1 = 4", 2);
         says("plate: the NAME of a LANE (-1: none);");
         ran(z, "pass if plate 0 = 19 and plate 1 = 0 and plate 2 = 0 - 1", 1);
+        ran(alone(0), "pass if plate 0 = 0 - 1; cry 0; pass times 2 if plate 0 = 1; pass if plate 0 < 0", 4);
         says("-1 without such a CHILD, LANE.");
         ran(z, "pass if at 2 = 0 - 1 and at 3 = 0 - 1 and plate 3 = 0 - 1 and plate 9 = 0 - 1", 1);
     }
